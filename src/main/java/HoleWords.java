@@ -616,8 +616,8 @@ public final class HoleWords {
     }
 
     /**
-     * The bits of a floating-point number that is 0 or at least the smallest normal one; what a row holds is a
-     * multiple of 2^-63, so nothing smaller comes here.
+     * The bits of a number from 0 to 1, as all that a row holds. A row holds multiples of 2^-63, so that the number is
+     * never too small for the form with the leading 1.
      */
     private static long bits(double value, int bias, int fractionBits) {
         if (value <= 0) {
@@ -625,15 +625,11 @@ public final class HoleWords {
         }
         double scaled = value;
         int exponent = bias;
-        for (int i = 0; i < 1100 && scaled >= 2; i++) {
-            scaled /= 2;
-            exponent++;
-        }
         for (int i = 0; i < 1100 && scaled < 1; i++) {
             scaled *= 2;
             exponent--;
         }
-        long fraction = (long) ((scaled - 1) * (1L << fractionBits));
+        long fraction = (long) ((scaled - 1.0) * (double) (1L << fractionBits));
         return ((long) exponent << fractionBits) + fraction;
     }
 
@@ -1047,8 +1043,6 @@ public final class HoleWords {
 
         private int letters;
         private int states;
-        /** The first state that is a word of 4 letters. */
-        private int firstLong;
         /** For each state and letter the next state, or NOTHING if a pattern would end with the letter. */
         private final int[] targets = new int[MAX_STATES * MAX_LETTERS];
         private final int[] lastLetter = new int[MAX_STATES];
@@ -1084,11 +1078,9 @@ public final class HoleWords {
         private void setSize(int letterCount) {
             letters = letterCount;
             states = 1;
-            firstLong = 0;
             int words = 1;
             for (int i = 0; i < MEMORY; i++) {
                 words *= letters;
-                firstLong = states;
                 states += words;
             }
         }
@@ -1180,7 +1172,7 @@ public final class HoleWords {
         /** Puts the shortest cycle of at most 40 letters, the smallest one of these, or else the empty word there. */
         void findCycle(Word best, Word draft) {
             best.makeEmpty();
-            for (int s = firstLong; s < states; s++) {
+            for (int s = 0; s < states; s++) {
                 int last = lastBeforeReturn(s, best.size() == 0 ? MAX_LENGTH : best.size());
                 if (last != NOTHING) {
                     readCycle(s, last, draft);

@@ -134,6 +134,14 @@ public final class PromiseTest {
         due("setLetters(1)", x.setLetters(1), 3);
         dueThrow("append(0, 1)", ARGUMENT, () -> x.append(0, 1));
         due("setLetters(2)", x.setLetters(2), 1);
+        set(x, 0, "a");
+        x.addPattern(0);
+        x.setLetters(2);
+        set(x, 0, "ab");
+        x.addPattern(0);
+        set(x, 0, "ba");
+        due("avoids ba after a was removed as a pattern", x.avoids(0), true);
+        due("isUnavoidable()", x.isUnavoidable(), false);
 
         promise = 3;
         HoleWords y = new HoleWords();
@@ -233,6 +241,15 @@ public final class PromiseTest {
             dueThrow("errorPosition() after the long " + text, NO_ELEMENT, () -> y.errorPosition());
             due("the word after the long " + text, get(y, 0), "b_");
             due("the input after the long " + text, y.feed('a'), 1);
+        }
+        HoleWords again = new HoleWords();
+        for (String text : new String[] {"(a9)9", "((a", "(a9)9", "a", "2", "a2", ")", "(a"}) {
+            feedAll(again, text);
+            if (text.equals("a") || text.equals("a2")) {
+                due("parseWord of " + text + " after others", again.parseWord(0), text.length());
+            } else {
+                dueThrow("parseWord of " + text + " after others", STATE, () -> again.parseWord(0));
+            }
         }
         HoleWords z = with(2, "", "b");
         feedAll(z, "_a");
@@ -596,6 +613,8 @@ public final class PromiseTest {
         due("primitiveCompletions of 6 holes", p.primitiveCompletions(3), 54);
         set(p, 3, "_");
         due("primitiveCompletions(_)", p.primitiveCompletions(3), 2);
+        set(p, 3, "a_");
+        due("primitiveCompletions(a_)", p.primitiveCompletions(3), 1);
         set(p, 3, "abab");
         due("primitiveCompletions(abab)", p.primitiveCompletions(3), 0);
         set(p, 3, "abaab_");
@@ -691,6 +710,12 @@ public final class PromiseTest {
         due("removePattern(0)", y.removePattern(0), 0);
         due("avoids baaaaa", y.avoids(0), true);
         dueThrow("removePattern(0)", INDEX, () -> y.removePattern(0));
+        HoleWords z = listing(2, "a", "bbb", "a_a");
+        z.removePattern(0);
+        set(z, 0, "aabb");
+        due("avoids aabb", z.avoids(0), true);
+        set(z, 0, "aba");
+        due("avoids aba", z.avoids(0), false);
 
         promise = 32;
         due("patternCount()", new HoleWords().patternCount(), 0);
@@ -762,6 +787,24 @@ public final class PromiseTest {
             promise = 33;
         }
 
+        promise = 35;
+        due("isMinimal() first of all", listing(2, "a", "b").isMinimal(), true);
+        promise = 36;
+        due("longestAvoiding() first of all", listing(2, "a", "bb").longestAvoiding(), 1);
+        HoleWords changing = listing(2, "aaa", "b");
+        due("longestAvoiding()", changing.longestAvoiding(), 2);
+        set(changing, 0, "aa");
+        changing.addPattern(0);
+        due("longestAvoiding()", changing.longestAvoiding(), 1);
+        promise = 38;
+        due("avoidingCycle(0)", listing(2, "a_a").avoidingCycle(0), 1);
+        changing.removePattern(1);
+        due("avoidingCycle(1)", changing.avoidingCycle(1), 1);
+        set(changing, 0, "b");
+        changing.addPattern(0);
+        dueThrow("avoidingCycle(1)", NO_ELEMENT, () -> changing.avoidingCycle(1));
+        due("the word stays", get(changing, 1), "b");
+
         dueUnavoidable(false, 3, 2, "aa", "b_b", "bb");
         dueUnavoidable(true, 4, 2, "aa", "b_b");
         dueUnavoidable(false, 0, 2, "aa", "_");
@@ -775,6 +818,7 @@ public final class PromiseTest {
         dueUnavoidable(true, 3, 2, "aa", "bb", "ba_");
 
         promise = 37;
+        due("countAvoiding(3) first of all", listing(2, "aba", "b_").countAvoiding(3), 2L);
         HoleWords y = listing(2, "aa");
         long[] fibonacci = {1, 2, 3, 5, 8, 13, 21, 34};
         for (int n = 0; n < fibonacci.length; n++) {
@@ -830,6 +874,7 @@ public final class PromiseTest {
         x.fillDensities(0, 0);
         due("elementBits(0, 1)", x.elementBits(0, 1), (long) Float.floatToIntBits(1f));
         x.newRow(0, 1, 3);
+        due("elementBits(0, 0) of a new row", x.elementBits(0, 0), 0L);
         due("elementBits(0, 1) of a new row", x.elementBits(0, 1), 0L);
         dueThrow("elementBits(0, 3) of a smaller row", INDEX, () -> x.elementBits(0, 3));
 
@@ -874,6 +919,11 @@ public final class PromiseTest {
         x.newRow(1, 1, 0);
         due("fillDensities(1, 1), no elements", x.fillDensities(1, 1), 0);
         dueThrow("fillDensities(1, 3), no elements", STATE, () -> x.fillDensities(1, 3));
+        HoleWords weak = with(2, "a_b");
+        weak.newRow(0, 1, 3);
+        due("fillDensities by the weak period", weak.fillDensities(0, 0), 3);
+        due("the element 1", weak.elementBits(0, 1), Double.doubleToLongBits(0.5));
+        due("the element 2", weak.elementBits(0, 2), Double.doubleToLongBits(1.0 / 3.0));
         x.newRow(1, 0, 41);
         due("fillDensities(1, 2)", x.fillDensities(1, 2), 40);
         due("the last element", x.elementBits(1, 39), (long) Float.floatToIntBits(1f));
@@ -975,5 +1025,13 @@ public final class PromiseTest {
         due("restoreSnapshot()", x.restoreSnapshot(), 0);
         dueThrow("append(0, 1)", ARGUMENT, () -> x.append(0, 1));
         due("setLetters(2)", x.setLetters(2), 1);
+        HoleWords y = listing(2, "aa", "_b");
+        y.saveSnapshot();
+        y.setLetters(2);
+        due("restoreSnapshot()", y.restoreSnapshot(), 2);
+        due("longestAvoiding()", y.longestAvoiding(), 2);
+        y.removePattern(1);
+        set(y, 0, "aa");
+        due("avoids(0)", y.avoids(0), false);
     }
 }
