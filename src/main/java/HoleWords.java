@@ -18,6 +18,7 @@ public final class HoleWords {
     private static final int MAX_PRIMITIVE_HOLES = 7;
     private static final int MAX_COMPLEXITY = 6;
     private static final int MAX_COUNTED = 30;
+    private static final long MAX_LONG = 0x7fffffffffffffffL;
 
     private final Store store = new Store();
     private final Store snapshot = new Store();
@@ -546,7 +547,7 @@ public final class HoleWords {
     private static long completionsOf(Word word, int letters) {
         long count = 1;
         for (int i = word.holeCount(); i > 0; i--) {
-            if (letters > 1 && count > Long.MAX_VALUE / letters) {
+            if (letters > 1 && count > MAX_LONG / letters) {
                 return NOTHING;
             }
             count *= letters;
