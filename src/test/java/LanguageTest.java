@@ -1,6 +1,7 @@
 import java.io.DataInputStream;
 import java.io.IOException;
 import java.lang.reflect.Field;
+import java.lang.reflect.Method;
 import java.lang.reflect.Modifier;
 import java.nio.file.Files;
 import java.nio.file.Path;
@@ -27,6 +28,7 @@ public final class LanguageTest {
     private static final int MOST_LINES = 60;
     private static final int MOST_CLASSES = 12;
     private static final int MOST_FIELDS = 20;
+    private static final int MOST_PARAMETERS = 7;
 
     private static int wrong = 0;
 
@@ -46,7 +48,7 @@ public final class LanguageTest {
         check(!files.isEmpty() && files.size() <= MOST_CLASSES, files.size() + " classes");
         for (Path file : files) {
             library(file);
-            fields(Class.forName(file.getFileName().toString().replace(".class", "")));
+            members(Class.forName(file.getFileName().toString().replace(".class", "")));
         }
         System.out.println("LanguageTest: " + files.size() + " classes, " + wrong + " wrong");
         if (wrong != 0) {
@@ -67,6 +69,11 @@ public final class LanguageTest {
         }
         Matcher thrown = Pattern.compile("\\bthrow\\b(?! new \\w+(Exception)\\()").matcher(code);
         check(!thrown.find(), "a throw of something that is not new");
+        // All work space is made with the object, so that a run of calls makes nothing but the exceptions (rule 12).
+        for (String line : code.split("\n")) {
+            check(!line.matches(".*\\bnew\\b.*") || line.matches(" +throw new .*| +(private )?final .* = new .*")
+                || line.matches(" +\\w+\\[i\\] = new \\w+\\(\\);"), "an object that may be made by a call: " + line.trim());
+        }
         methods(lines);
     }
 
@@ -85,7 +92,7 @@ public final class LanguageTest {
         }
     }
 
-    private static void fields(Class<?> type) {
+    private static void members(Class<?> type) {
         int own = 0;
         for (Field f : type.getDeclaredFields()) {
             boolean isStatic = Modifier.isStatic(f.getModifiers());
@@ -94,6 +101,9 @@ public final class LanguageTest {
                 || f.getType() == String.class), "the static field " + f);
         }
         check(own <= MOST_FIELDS, own + " fields in " + type);
+        for (Method m : type.getDeclaredMethods()) {
+            check(m.getParameterCount() <= MOST_PARAMETERS, "too many parameters of " + m);
+        }
     }
 
     /** Looks at all that a class file names of other classes. */
